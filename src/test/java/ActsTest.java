@@ -84,6 +84,11 @@ public final class ActsTest {
         LaneDoors x = Checks.town(town);
         Checks.due("push past a", x.push(0, 0, 2, 3), 1);
         Checks.due("push past a and b", x.push(0, 0, 4, 3), 3);
+        Checks.due("push to the place of a", x.push(0, 0, 1, 3), 1);
+        Checks.due("push to the place of c", x.push(0, 6, 5, 3), 4);
+        Checks.due("from the place of c", x.push(0, 5, 4, 2), -1);
+        Checks.due("from the place of c, narrow", x.push(0, 5, 4, 1), 0);
+        Checks.due("c is behind", x.push(0, 4, 2, 3), -1);
         Checks.due("c does not yield", x.push(0, 0, 6, 2), -1);
         Checks.due("but leaves 1", x.push(0, 0, 6, 1), 3);
         Checks.due("the first place is not pushed", x.push(0, 1, 2, 2), -1);

@@ -77,6 +77,10 @@ public final class DoorsTest {
         Checks.due("an open one", x.can(0), 0);
         Checks.due("one that it hinders", x.can(1), 0);
         x.shut(0);
+        x.open(1);
+        Checks.due("the first one, hindered", x.can(0), 0);
+        Checks.due("how many can", x.sum(1), 2);
+        x.shut(1);
         x.off(0);
         Checks.due("one that is off", x.can(0), 0);
         Checks.due("one not hindered any more", x.can(1), 1);
@@ -146,6 +150,11 @@ public final class DoorsTest {
         formula("0 - 1 or 0", 1);
         formula("place * 100 + broad * 10 + times + day", 320);
         formula("1+2*3-4/2%3", 5);
+        // The longest formula there can be: 30 units, each behind 7 nots.
+        String nots = "not ".repeat(7);
+        formula((nots + "0 and ").repeat(29) + nots + "0", 1);
+        formula((nots + "0 and ").repeat(29) + nots + "1", 0);
+        formula("20-(1-(1-(1-(1-(1-(1-(9-2)))))))", 13);
     }
 
     /** The oil of a door with place 3 and breadth 2. */

@@ -108,6 +108,9 @@ public final class TownTextTest {
 
     private static void tokens() {
         Checks.fine("lane abcdefgh long 0003 wide 2;", 0);
+        Checks.fine("lane zaz long 9 wide 1;lane az long 1 wide 1;lane za long 1 wide 1;", 0);
+        Checks.fault(1, "lane a^{ long 3 wide 2;");
+        Checks.fault(1, "lane a^` long 3 wide 2;");
         Checks.fine("\n lane a long3 wide8;lane\nb\nlong 3 wide 8 ;\n", 0);
         Checks.fault(1, "lane ^abcdefghi long 3 wide 2;");
         Checks.fault(1, "lane a long ^00003 wide 2;");

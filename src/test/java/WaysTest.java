@@ -56,6 +56,13 @@ public final class WaysTest {
         Checks.due("nothing free at the place itself", shut.widest(0, 1, 0, 1), 0);
         LaneDoors broad = Checks.town("lane l long 2 wide 8;");
         Checks.due("the broadest", broad.widest(0, 0, 0, 1), 8);
+        Checks.due("way for 8", broad.way(0, 0, 0, 1, 8), 1);
+        Checks.due("spread for 8", broad.spread(0, 1, 8), 2);
+        Checks.due("far for 8", broad.far(0, 0, 8), 1);
+        Checks.lie("far for 8", broad, 1);
+        Checks.due("parts for 8", broad.parts(8, 1), 2);
+        Checks.due("push for 8", broad.push(0, 1, 0, 8), 0);
+        Checks.due("cart for 8", broad.cart(0, 0, 1, 8), 0);
     }
 
     private static void spread() {
@@ -117,6 +124,11 @@ public final class WaysTest {
         Checks.due("needs without a way", x.needs(0, 0, 1, 0, 3), -1);
         Checks.lie("needs without a way", x);
         Checks.due("needs to the place itself", x.needs(0, 0, 0, 0, 1), 0);
+        LaneDoors first = Checks.town("lane l long 2 wide 1;lane m long 1 wide 1;lane p long 1 wide 1;corner l 0 with m 0;corner p 0 with l 0;");
+        Checks.due("needs of the very first place", first.needs(1, 0, 2, 0, 1), 1);
+        Checks.lie("needs of the very first place", first, 0);
+        Checks.due("needs where a number is too great", first.needs(1, 0, 2, 0, 9), -1);
+        Checks.lie("a number too great", first);
         x.open(0);
         Checks.due("needs with a", x.needs(0, 0, 0, 2, 2), 5);
         Checks.lie("needs with a", x, 3, 4, 100, 101, 102);
