@@ -548,6 +548,16 @@ public final class ActEdgesTest {
                 pushOne(from, to, "right");
             }
         }
+        // A door of one place has its hinge at the left or at the right as told, or as turned.
+        LaneDoors small = one("long 8 wide 1", "3 broad 1 left north");
+        small.open(0);
+        Checks.due("a left one, to greater places", small.push(0, 0, 7, 1), 1);
+        Checks.due("a left one, to less ones", small.push(0, 7, 0, 1), -1);
+        small.shut(0);
+        small.hinge(0);
+        small.open(0);
+        Checks.due("a right one, to greater places", small.push(0, 0, 7, 1), -1);
+        Checks.due("a right one, to less ones", small.push(0, 7, 0, 1), 1);
         // Several at one place, and one that comes back into the way of the other sort.
         LaneDoors both = Checks.town("lane l long 8 wide 2;door a in l at 3 broad 1 left north open;door b in l at 3 broad 2 left south open;"
                 + "door c in l at 4 broad 2 right north open;");
