@@ -319,6 +319,19 @@ public final class TownEdgesTest {
         Checks.fault(5, TWO + "door a in l at 0 broad 1 left north;corner ^a 0 with m 0;");
         Checks.fault(5, TWO + "corner ^k 0 with l 0;");
         Checks.fault(5, TWO + "corner l 0 with ^k 0;");
+        String four = "lane a long 1 wide 1;lane b long 1 wide 1;lane c long 1 wide 1;lane d long 1 wide 1;";
+        Checks.fault(5, four + "door a in ^e at 0 broad 1 left north;");
+        Checks.fault(5, four + "corner ^e 0 with a 0;");
+        Checks.fault(5, four + "corner a 0 with ^e 0;");
+        // A name of a lane of the town before is no name of one now, and may be told anew.
+        LaneDoors x = Checks.town(four + "door p in b at 0 broad 1 left north;");
+        for (int i = 0; i < 3; i++) {
+            Checks.feed(x, "lane a long 1 wide 1;door q in b at 0 broad 1 left north;");
+            Checks.due("town()", x.town(), -1);
+            Checks.due("its fault", 100 * x.fault(0) + x.fault(1), 531);
+            Checks.feed(x, "lane b long 1 wide 1;door q in b at 0 broad 1 left north;door p in b at 0 broad 1 left south;");
+            Checks.due("town() with the names told anew", x.town(), 2);
+        }
     }
 
     private static void newObject() {
