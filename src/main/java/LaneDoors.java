@@ -520,7 +520,7 @@ public final class LaneDoors {
     }
 
     public int lies(int i) {
-        return i >= 0 && i < pile.size ? pile.at(i) : NONE;
+        return pile.at(i);
     }
 
     public int heard(int door, int other) {
@@ -901,7 +901,7 @@ public final class LaneDoors {
                 case Lexer.LANE: return plan.lanes < MOST_LANES ? readLane() : refuse(MISPLACED);
                 case Lexer.DOOR: return plan.doors < MOST_DOORS ? readDoor() : refuse(MISPLACED);
                 case Lexer.CORNER: return plan.corners < MOST_CORNERS ? readCorner() : refuse(MISPLACED);
-                case Lexer.OIL: return readOil();
+                case Lexer.OIL: return beginOnce(1) && readChain(EITHER, 0) && expect(';');
                 case Lexer.STOCK: return readStock();
                 case Lexer.DRAW: return readDraw();
                 default: return refuse(MISPLACED);
@@ -1019,10 +1019,6 @@ public final class LaneDoors {
             }
             plan.addCorner(plan.spot(lane, place), plan.spot(other, otherPlace));
             return true;
-        }
-
-        private boolean readOil() {
-            return beginOnce(1) && readChain(EITHER, 0) && expect(';');
         }
 
         private boolean readStock() {
